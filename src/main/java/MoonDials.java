@@ -657,11 +657,18 @@ public final class MoonDials {
     }
 
     private static int rest(int value, int divisor) {
-        return divisor > 0 ? Math.floorMod(value, divisor) : 0;
+        if (divisor <= 0) {
+            return 0;
+        }
+        int left = value % divisor;
+        return left < 0 ? left + divisor : left;
     }
 
     private static int held(int value, int most) {
-        return Math.max(0, Math.min(most, value));
+        if (value < 0) {
+            return 0;
+        }
+        return value > most ? most : value;
     }
 
     private static int pair(int goer, int other) {
@@ -1159,7 +1166,6 @@ public final class MoonDials {
         static final int PLUS = 2;
         static final int MINUS = 3;
         static final int TIMES = 4;
-        static final int OVER = 5;
         static final int UNLESS = 6;
         static final int END = 7;
 
@@ -1253,7 +1259,7 @@ public final class MoonDials {
                     return top > 0 ? stack[top - 1] : 0;
                 }
                 if (step == NUMBER || step == VARIABLE) {
-                    if (top >= stack.length) {
+                    if (top >= stack.length || step == VARIABLE && what >= vars.length) {
                         return 0;
                     }
                     stack[top] = step == NUMBER ? what : vars[what];
@@ -1269,27 +1275,22 @@ public final class MoonDials {
                     top -= 2;
                     // Jumps go on alone, so the loop ends.
                     at = left < right ? at : Math.max(at, what - 1);
-                } else if (step == OVER && right == 0) {
+                    continue;
+                }
+                top--;
+                if (step == PLUS) {
+                    stack[top - 1] = left + right;
+                } else if (step == MINUS) {
+                    stack[top - 1] = left - right;
+                } else if (step == TIMES) {
+                    stack[top - 1] = left * right;
+                } else if (right == 0) {
                     return 0;
                 } else {
-                    top--;
-                    stack[top - 1] = joined(step, left, right);
+                    stack[top - 1] = left / right;
                 }
             }
             return 0;
-        }
-
-        private static int joined(int step, int left, int right) {
-            switch (step) {
-                case PLUS:
-                    return left + right;
-                case MINUS:
-                    return left - right;
-                case TIMES:
-                    return left * right;
-                default:
-                    return right == 0 ? 0 : left / right;
-            }
         }
     }
 
@@ -1385,7 +1386,7 @@ public final class MoonDials {
                 if (asksAgain) {
                     lengths[g] = lawOfGoer(COMES, g) > 0 ? lawOfGoer(STAYS, g) : 0;
                 }
-                there[g] = arc(garden.from[g] - shown[row[BY + g]], lengths[g]);
+                there[g] = arc(garden.from[g] - shown[dialOf(g)], lengths[g]);
                 two |= any & there[g];
                 any |= there[g];
             }
@@ -1442,7 +1443,7 @@ public final class MoonDials {
         /** What a law says of a goer this night; stays and worth within their bounds. */
         int lawOfGoer(int law, int goer) {
             int[] vars = garden.laws.vars;
-            setVars(row[BY + goer], goer);
+            setVars(dialOf(goer), goer);
             vars[Laws.FROM_VAR] = garden.from[goer];
             vars[Laws.LONG_VAR] = garden.stay[goer];
             vars[Laws.MET_VAR] = row[MET + goer];
@@ -1470,6 +1471,11 @@ public final class MoonDials {
             vars[Laws.WHICH_VAR] = which;
             vars[Laws.DAY_VAR] = garden.hours;
             vars[Laws.GOERS_VAR] = garden.goers;
+        }
+
+        /** The dial by which a goer goes, as a number that an array of dials has. */
+        private int dialOf(int goer) {
+            return held(row[BY + goer], MAX_DIALS - 1);
         }
 
         /** Whether a dial has an eclipse in this night. */
