@@ -1273,8 +1273,10 @@ public final class MoonDials {
                 int right = stack[top - 1];
                 if (step == UNLESS) {
                     top -= 2;
-                    // Jumps go on alone, so the loop ends.
-                    at = left < right ? at : Math.max(at, what - 1);
+                    // A jump only ever goes on, so the loop ends.
+                    if (left >= right && what > at) {
+                        at = what - 1;
+                    }
                     continue;
                 }
                 top--;
