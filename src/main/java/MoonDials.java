@@ -108,16 +108,15 @@ public final class MoonDials {
         if (!isDial(dial)) {
             return NONE;
         }
+        walk.begin(now);
         switch (what) {
             case 0:
                 return now[OUT + dial];
             case 1:
                 return now[SLIP + dial];
             case 2:
-                walk.begin(now);
                 return walk.dims(dial);
             case 3:
-                walk.begin(now);
                 return walk.isDark(dial, garden.seed) ? 1 : 0;
             default:
                 return NONE;

@@ -97,6 +97,12 @@ public final class NowTest {
         worth("if (8 * 8 * 8 * 8 * 8 * 8 * 8 * 8 * 8 * 8 * 2) / (0 - 1) < 0 then 3 else 4", 3);
         DUE.is("stays above", Texts.garden("hours 8; dial a 0 0; goer p a 0 1; stays = 99;").goer(0, 4), 8);
         DUE.is("stays below", Texts.garden("hours 8; dial a 0 0; goer p a 0 1; stays = 0 - 1;").goer(0, 4), 0);
+        // As long as a text of 400 tokens can have them.
+        String sum = "1+".repeat(191) + "1-100";
+        DUE.is("a long worth", Texts.garden("dial a 0 0;goer p a 0 1;worth=" + sum + ";").goer(0, 5), 92);
+        DUE.is("a longer dims", Texts.garden("dial a 0 0;dims=1+1+1+" + sum + ";").dial(0, 2), 95);
+        String deep = "9-8*(9-8*(9-8*(9-8*(9-8*(9-8*(1)))))) ".trim();
+        worth("if 1 + " + deep + " < 3 then " + deep + " + 41 else 1", 42);
         DUE.is("comes 0", Texts.garden("dial a 0 0; goer p a 0 1; comes = 0;").goer(0, 3), 0);
         DUE.is("comes -1", Texts.garden("dial a 0 0; goer p a 0 1; comes = 0 - 1;").goer(0, 3), 0);
         DUE.is("comes 2", Texts.garden("dial a 0 0; goer p a 0 1; comes = 2;").goer(0, 3), 1);
@@ -175,6 +181,12 @@ public final class NowTest {
         y.nights(1);
         DUE.is("three at an hour: met", y.goer(1, 6), 1);
         DUE.is("three at an hour: pairs", y.count(4), 3);
+        MoonDials first = Texts.garden("hours 5; dial a 1 2; dial b 1 3; goer p b 0 1; worth = slip * 10 + out;");
+        DUE.is("a law goes by the goer's dial", first.goer(0, 5), 31);
+        first.nights(1);
+        DUE.is("the first dial slips", first.dial(0, 0), 3);
+        DUE.is("the second dial slips", first.dial(1, 0), 4);
+        DUE.is("a law goes by the goer's dial", first.goer(0, 5), 34);
         // A night goes by how it was as it began, then the next one by what has come of it.
         MoonDials z = Texts.garden("hours 4; dial a 0 0; goer p a 0 1; goer q a 0 1; comes = 2 - met;");
         z.nights(9);
@@ -197,6 +209,8 @@ public final class NowTest {
                 DUE.is("met behind night " + i, x.goer(g, 6), met[i][g]);
             }
         }
+        x.metIn(0, 3);
+        DUE.is("eclipse of night 6", x.dial(0, 3), Model.lot(100, 7, 48) < 50 ? 1 : 0);
         DUE.is("together", x.together(0, 1), 6);
         DUE.is("together", x.together(0, 2), 1);
         // LOT 100 of seed 7 and 0 is 83, of 7 and 1 it is 13.
@@ -204,7 +218,23 @@ public final class NowTest {
         DUE.is("dims 84", Texts.garden("dial a 0 0; dims = 84; seed 7;").dial(0, 3), 1);
         DUE.is("dims 13", Texts.garden("dial a 0 0; dial b 0 0; dims = 13; seed 7;").dial(1, 3), 0);
         DUE.is("dims 14", Texts.garden("dial a 0 0; dial b 0 0; dims = 14; seed 7;").dial(1, 3), 1);
+        DUE.is("dims of the night", nightDims(), 70);
+        // The seed is 0 if none is told: LOT 100 of 0 and 0 is 16.
+        DUE.is("seed 0, dims 16", Texts.garden("dial a 0 0; dims = 16;").dial(0, 3), 0);
+        DUE.is("seed 0, dims above", Texts.garden("dial a 0 0; dims = 16 + 1;").dial(0, 3), 1);
+        MoonDials again = Texts.garden("dial a 0 0; seed 7;");
+        Texts.read(again, "dial a 0 0; dims = 16 + 1;");
+        DUE.is("seed 0 again", again.dial(0, 3), 1);
         DUE.is("there is without", Texts.garden(GARDEN + "dims = 100; seed 7;").there(3), 3);
+    }
+
+    private static int nightDims() {
+        MoonDials x = Texts.garden("dial a 0 0; dims = night * 10;");
+        x.nights(9);
+        x.undo();
+        x.nights(7);
+        x.metIn(0, 9);
+        return x.dial(0, 2);
     }
 
     private static void undo() {

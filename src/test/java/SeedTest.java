@@ -71,6 +71,11 @@ public final class SeedTest {
         DUE.is("goer -1", x.year(-1, 0, 1, 1), -1);
         // Seeds go on beyond 9999.
         years("over 9999", Texts.garden(GARDEN + "seed 9995;"), 0, "11110111110111111010");
+        // Who comes goes by who met in the nights until then, which go by each seed too.
+        MoonDials shy = Texts.garden(GARDEN + "comes = 2 - (met - met / 3 * 3); seed 7;");
+        years("by who met, behind 1", shy, 1, "01111110000010010001");
+        years("by who met, behind 3", shy, 3, "00100000000000000000");
+        years("by who met, behind 5", shy, 5, "00000010000000000000");
         MoonDials clear = Texts.garden(GARDEN + "dims = 0;");
         DUE.is("no eclipses", clear.year(0, 1, 200, 20), 20);
         DUE.is("no eclipses", clear.year(0, 1, 2, 20), 0);

@@ -89,6 +89,20 @@ public final class ToldTest {
         // By b and c alike: one and three is the best there is.
         MoonDials w = Texts.garden("hours 8; dial a 0 0; dial b 7 1; dial c 7 1; dial d 4 0; goer p a 0 1;");
         DUE.is("look for a quarter", w.look(0, 0, 0), 0);
+        // Only the dials that still fit are told apart.
+        y.tell(9, 0, true);
+        y.tell(0, 0, false);
+        DUE.is("only b fits", y.fits(2, 0, 1), 2);
+        DUE.is("a and b fit", y.fits(1, 0, 1), 3);
+        DUE.is("look among a and b", y.look(1, 0, 0), 0);
+        DUE.is("look among b", y.look(2, 0, 0), 0);
+        y.forget();
+        y.tell(0, 0, false);
+        DUE.is("b, c and d fit", y.fits(1, 0, 1), 14);
+        DUE.is("look among b, c and d", y.look(1, 0, 0), 1);
+        y.tell(1, 0, false);
+        DUE.is("c and d fit", y.fits(2, 0, 1), 12);
+        DUE.is("look among c and d", y.look(2, 0, 0), 3);
         MoonDials z = Texts.garden("hours 8; dial a 0 0; dial b 1 0; goer p a 0 1;");
         DUE.is("look in vain", z.look(0, 0, 5), 0);
         MoonDials late = Texts.garden("hours 8; dial a 0 0; dial b 1 0; goer p a 0 1; comes = night - 29;");

@@ -28,6 +28,8 @@ public final class WouldBeTest {
         fullest();
         game();
         nothingHappens();
+        firstHours();
+        fromNowOn();
         DUE.end();
     }
 
@@ -329,5 +331,64 @@ public final class WouldBeTest {
         MoonDials y = Texts.garden("hours 4; dial a 0 0; goer p a 0 1; goer q a 0 1; comes = 2 - met;");
         DUE.is("often by met", y.often(0, 1, 9), 2);
         DUE.is("alone by met", y.alone(0, 9), 0);
+    }
+
+    private static void firstHours() {
+        MoonDials x = Texts.garden("hours 5; dial a 0 0; goer p a 0 2; goer q a 0 1; goer r a 1 1;");
+        DUE.is("meet at 0", x.meet(3, 1), 0);
+        DUE.is("meet at 1", x.meet(5, 1), 1);
+        DUE.is("fullest", x.fullest(0), 0);
+        DUE.is("favourite", x.favourite(3, 0), 0);
+        DUE.is("favourite in", x.favourite(3, 1), 3);
+        DUE.is("favourite in again", x.favourite(3, 1), 3);
+        DUE.is("longest", x.longest(0, 1, 1), 1);
+        x.turn(0, 4);
+        DUE.is("meet at 1", x.meet(3, 1), 1);
+        DUE.is("fullest at 1", x.fullest(0), 1);
+        DUE.is("favourite at 1", x.favourite(3, 0), 1);
+        MoonDials y = Texts.garden("hours 5; dial a 0 0; goer p a 0 2; goer q a 2 1;");
+        DUE.is("strangers of the second", y.strangers(1), 1);
+        MoonDials z = Texts.garden("hours 5; dial a 0 1; dial b 0 0; goer p a 0 1; goer q b 3 1;");
+        DUE.is("the second meets the first later", z.strangers(1), 0);
+        DUE.is("sooner later", z.sooner(1), 2);
+    }
+
+    /** Each call asks from now on, whatever was asked ahead of it. */
+    private static void fromNowOn() {
+        MoonDials x = Texts.garden(GARDEN);
+        for (int i = 0; i < 2; i++) {
+            x.meet(6, 0);
+            DUE.is("meet", x.meet(5, 0), 1);
+            x.often(0, 1, 5);
+            DUE.is("often", x.often(0, 1, 1), 2);
+            DUE.is("alone", x.alone(0, 1), 1);
+            DUE.is("alone", x.alone(0, 2), 2);
+            DUE.is("earns", x.earns(0, 1), 2);
+            DUE.is("earns", x.earns(0, 2), 4);
+            DUE.is("sooner", x.sooner(1), 0);
+            DUE.is("peace", x.peace(1, 1), 1);
+            DUE.is("favourite", x.favourite(1, 0), 3);
+            DUE.is("favourite", x.favourite(1, 0), 3);
+            DUE.is("longest", x.longest(0, 1, 1), 2);
+            DUE.is("longest", x.longest(0, 1, 1), 2);
+            DUE.is("couples", x.couples(1, -1), 2);
+            DUE.is("couples", x.couples(1, -1), 2);
+            x.strangers(1);
+            DUE.is("strangers", x.strangers(0), 0);
+            DUE.is("fullest", x.fullest(1), 2);
+            x.outIn(1, 3);
+            x.metIn(0, 3);
+            DUE.is("there", x.there(3), 3);
+            x.hold(0);
+            x.nights(3);
+            DUE.is("alone in night 3", x.alone(0, 1), 3);
+            DUE.is("earns in night 3", x.earns(0, 1), 0);
+            DUE.is("peace in night 3", x.peace(1, 1), 0);
+            DUE.is("couples in night 3", x.couples(1, -1), 0);
+            DUE.is("favourite in night 3", x.favourite(1, 1), 0);
+            DUE.is("longest in night 3", x.longest(0, 1, 1), 0);
+            DUE.is("sooner in night 3", x.sooner(1), 1);
+            x.restore(0);
+        }
     }
 }
