@@ -25,6 +25,7 @@ public final class NowEdgesTest {
         slip();
         nights();
         aNight();
+        lawsEachNight();
         darkNights();
         undo();
         undoForty();
@@ -74,7 +75,7 @@ public final class NowEdgesTest {
         dimsOf("5/0", 0);
         dimsOf("50+from+long+met", 50);
         EDGES.test(6, "DIMS: from, long, met 0", Edges.PAIR.replace(" 0 1;", " 3 5;") + "dims = 1 + from + long + met;")
-            .asks("nights(2) = 2  goer(0, 6) = 10  dial(0, 2) = 1");
+            .asks("nights(2) = 2  goer(0, 6) = 10  goer(0, 5) = 1  count(5) = 3  dial(0, 2) = 1  dial(0, 3) = 0");
         EDGES.test(6, "DIMS: which: the DIAL's number", "dial a 0 0; dial b 0 0; dial c 0 0; dial d 0 0; dims = which*9;")
             .asks("dial(0, 2) = 0  dial(1, 2) = 9  dial(2, 2) = 18  dial(3, 2) = 27");
         EDGES.test(6, "DIMS: night, out, slip, day, goers", Edges.GARDEN + "dims = night * 50 + out * 9 + slip + day - goers;")
@@ -230,6 +231,11 @@ public final class NowEdgesTest {
         worth(binds, "9 - (3 - 2)", 8);
         worth(binds, "2 + 3 * 4", 14);
         worth(binds, "2 * 3 + 4", 10);
+        worth(binds, "9 - 2 * 3", 3);
+        worth(binds, "9 - 6 / 3", 7);
+        worth(binds, "1 + 6 / 3", 3);
+        worth(binds, "6 / 3 - 1", 1);
+        worth(binds, "2 * 3 - 8 / 4", 4);
         worth(binds, "40 / 4 / 2", 5);
         worth(binds, "40 / (4 / 2)", 20);
         worth(binds, "7 / 2 * 2", 6);
@@ -402,6 +408,31 @@ public final class NowEdgesTest {
             .asks("""
                 nights(1) = 1  together(0, 1) = 1  dial(0, 0) = 1  nights(2) = 3  together(0, 1) = 1  dial(0, 0) = 0
                 nights(1) = 4  together(0, 1) = 2""");
+    }
+
+    private static void lawsEachNight() {
+        String[] comes = {"comes = 3 - night;", "comes = 3 - out;", "comes = 3 - met;"};
+        for (String law : comes) {
+            for (String stays : new String[] {"", "stays = 1;", "stays = long;"}) {
+                String text = Edges.PAIR.replace("a 0 0", "a 0 1");
+                EDGES.test(14, "LAWS are looked at in each NIGHT: " + law + stays, text + law + stays)
+                    .asks("often(0, 1, 7) = 3  nights(7) = 7  count(4) = 3");
+                EDGES.test(14, "LAWS are looked at in each NIGHT: " + stays + law, text + stays + law)
+                    .asks("often(0, 1, 7) = 3  nights(7) = 7  count(4) = 3");
+            }
+        }
+        // 0, 1 and 2 hours, then 3.
+        for (String law : new String[] {"stays = night;", "stays = out;"}) {
+            for (String other : new String[] {"", "comes = 1;", "comes = goers;"}) {
+                String text = Edges.PAIR.replace("a 0 0", "a 0 1");
+                EDGES.test(14, "LAWS are looked at in each NIGHT: " + law + other, text + law + other)
+                    .asks("often(0, 1, 4) = 6  nights(4) = 4  count(4) = 6");
+                EDGES.test(14, "LAWS are looked at in each NIGHT: " + other + law, text + other + law)
+                    .asks("often(0, 1, 4) = 6  nights(4) = 4  count(4) = 6");
+            }
+        }
+        EDGES.test(14, "LAWS are looked at in each NIGHT: met", Edges.PAIR + "stays = met + 1; comes = 1;")
+            .asks("often(0, 1, 3) = 7  nights(3) = 3  count(4) = 7");
     }
 
     private static void darkNights() {

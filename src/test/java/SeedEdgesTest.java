@@ -73,7 +73,11 @@ public final class SeedEdgesTest {
 
     /** A sign for each seed, whether they meet by it: what s seeds come to is how many 1s stand ahead. */
     private static void bySeeds(int seed, int n, String met) {
-        Run run = EDGES.test(38, "by s SEEDS from the text's SEED on: " + seed + ", behind " + n, LOTS + "seed " + seed + ";");
+        bySeeds("by s SEEDS from the text's SEED on", "", seed, n, met);
+    }
+
+    private static void bySeeds(String told, String law, int seed, int n, String met) {
+        Run run = EDGES.test(38, told + ": " + seed + ", behind " + n, LOTS + law + "seed " + seed + ";");
         int sum = 0;
         for (int s = 1; s <= 20; s++) {
             sum += met.charAt(s - 1) - '0';
@@ -91,5 +95,12 @@ public final class SeedEdgesTest {
         bySeeds(9985, 1, "10110000110010110001");
         bySeeds(9999, 0, "00100000100001000101");
         bySeeds(9999, 200, "01100010000001100111");
+        // Who has met comes no more: the nights until then go by each seed too.
+        String nights = "NIGHTS go by each SEED";
+        bySeeds(nights, "comes = 1 - met;", 0, 2, "00000000000001000000");
+        bySeeds(nights, "comes = 1 - met;", 0, 4, "00000000000000001010");
+        bySeeds(nights, "comes = 1 - met;", 7, 2, "00000010000000000000");
+        bySeeds(nights, "comes = 1 - met;", 7, 4, "00000000010100000000");
+        bySeeds(nights, "comes = 1 - met;", 9999, 4, "00000000001000000000");
     }
 }

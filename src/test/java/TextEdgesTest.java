@@ -39,6 +39,7 @@ public final class TextEdgesTest {
         wrong();
         faultyTexts();
         newTexts();
+        textsInARow();
         place();
         EDGES.end(1, 5);
     }
@@ -654,6 +655,23 @@ public final class TextEdgesTest {
             nights(5) = 5  turn(0, 1) = 1  follow(0, 1) = true  slip(1, 0) = true""").reads(Edges.GARDEN).asks("""
             count(3) = 0  count(4) = 0  count(14) = 0  count(16) = 7  together(0, 1) = 0  goer(0, 6) = 0
             dial(0, 0) = 0  dial(1, 0) = 3  dial(1, 1) = 2  goer(0, 0) = 0  undo() = false""");
+    }
+
+    private static void textsInARow() {
+        String text = "dial a 0 0; goer p a 0 1; worth = 2 * (3 + 1) - 1;";
+        for (String broken : new String[] {"comes = 2 * (3 + (4 -", "worth = ((((((1 + 2 *", "dims = if 1 < (2 * (3 +",
+            "worth = (((((((", "dial a 0 0; goer p a 0 1; worth = 5; dims = 1 +"}) {
+            Run run = EDGES.test(4, "nothing is left of a text with a FAULT").feeds(broken);
+            run.asks("read() = " + (broken.endsWith("(((((((") ? 2 : 1)).reads(text).asks("goer(0, 5) = 7  dial(0, 2) = 0");
+        }
+        EDGES.test(4, "as long as LAWS can be, one text in place of the other");
+        MoonDials x = new MoonDials();
+        for (int i = 1; i <= 9; i++) {
+            String law = "1+".repeat(194) + "1";
+            EDGES.is("read() " + i, Texts.read(x, "dial a 0 0;dims=" + law + "-" + (100 + i) + ";"), 0);
+            EDGES.is("dial(0, 2) of text " + i, x.dial(0, 2), 95 - i);
+            EDGES.is("count(1) of text " + i, x.count(1), 1);
+        }
     }
 
     // ---- promise 5

@@ -14,6 +14,7 @@ public final class ToldEdgesTest {
         tell();
         forget();
         fits();
+        fitsOthers();
         fitsByNights();
         look();
         lookFar();
@@ -98,6 +99,19 @@ public final class ToldEdgesTest {
             tell(0, 22, true) = 0  fits(1, 0, 1) = 2""");
         EDGES.test(41, "of one who does not come", FOUR + "comes = which;").asks("""
             tell(0, 0, false) = 0  fits(1, 0, 1) = 15  tell(0, 0, true) = 1  fits(2, 0, 1) = 0""");
+    }
+
+    private static void fitsOthers() {
+        // By a q is there at 5, by b at 4, by c at 3, by d at 2, then at 1.
+        EDGES.test(41, "each GOER by their own hours", FOUR).asks("""
+            tell(0, 4, true) = 0  fits(1, 1, 1) = 2  fits(1, 0, 1) = 0  tell(1, 4, true) = 1  fits(2, 1, 1) = 2
+            forget() = 2  tell(1, 1, true) = 0  fits(1, 1, 1) = 8  fits(1, 1, 0) = 1  look(0, 1, 1) = 1
+            look(0, 1, 5) = 5  look(0, 1, 2) = 0""");
+        String five = "hours 8; dial a 0 0; dial b 1 0; dial c 2 0; dial d 3 1; goer p a 1 1; goer q b 2 1; goer r c 3 1;"
+            + "goer s d 4 1; goer t a 0 1;";
+        EDGES.test(41, "the last GOER", five).asks("""
+            tell(0, 7, true) = 0  fits(1, 4, 1) = 2  fits(1, 0, 1) = 4  fits(1, 1, 1) = 8  fits(1, 2, 1) = 0
+            fits(1, 5, 1) = NONE  look(0, 4, 0) = 5  look(1, 4, 0) = 0  look(0, 5, 0) = NONE""");
     }
 
     private static void fitsByNights() {

@@ -318,6 +318,10 @@ public final class WouldBeEdgesTest {
         EDGES.test(26, "in n: behind 61", from(61)).asks("mend(0, 3, 60) = -2");
         EDGES.test(26, "LAWS go by the SLIP", byTwo(0) + "comes = if which < 1 then 1 else slip - 3;")
             .asks("mend(1, 3, 0) = 4");
+        EDGES.test(26, "LAWS go by the SLIP: the most", byTwo(0) + "comes = if which < 1 then 1 else slip - 6;")
+            .asks("mend(1, 3, 0) = 7");
+        EDGES.test(26, "LAWS go by the SLIP: there is none more", byTwo(0) + "comes = if which < 1 then 1 else slip - 7;")
+            .asks("mend(1, 3, 0) = -2");
         EDGES.test(26, "24 HOURS", "hours 24; dial a 0 0; dial b 0 0; goer p a 0 1; goer q b 23 1;")
             .asks("mend(1, 3, 1) = 23  mend(1, 3, 22) = 5  mend(1, 3, 23) = 1");
     }
@@ -472,6 +476,10 @@ public final class WouldBeEdgesTest {
         couplesOf("of alike ones nobody ahead of all: three", three, 1, -2, 2, 1);
         couplesOf("then the lowest: four", three + "goer s a 0 1;", 2, 1, 0, 3, 2);
         couplesOf("nobody, then the lowest for the next one: five", FIVE_ALIKE, 2, -2, 2, 1, 4, 3);
+        couplesOf("across one another", "hours 8; dial a 0 0; goer p a 0 1; goer q a 4 1; goer r a 0 1; goer s a 4 1;",
+            2, 2, 3, 0, 1);
+        couplesOf("within one another", "hours 8; dial a 0 0; goer p a 0 1; goer q a 4 1; goer r a 4 1; goer s a 0 1;",
+            2, 3, 2, 1, 0);
         couplesOf("the lowest for the first", "hours 8; dial a 0 0; goer p a 0 2; goer q a 0 1; goer r a 1 1;", 1, 1, 0, -2);
         couplesOf("nobody for the first, as the others make as much", "hours 8; dial a 0 0; goer p a 0 1; goer q a 1 1; goer r a 0 2;", 1, -2, 2, 1);
         couplesOf("most ahead of the first", "hours 8; dial a 0 0; goer p a 0 3; goer q a 0 6; goer r a 3 5; goer s a 6 2;", 5, 1, 0, 3, 2);
@@ -533,7 +541,12 @@ public final class WouldBeEdgesTest {
             game(1, 2, 0) = 0  game(1, 2, 1) = 0  game(1, 3, 0) = 1  game(1, 3, 1) = 1""");
         EDGES.test(35, "turned round the night", byTwo(0).replace("b 0 0", "b 7 0"))
             .asks("game(1, 1, 0) = 1  game(1, 1, 1) = 1");
-        EDGES.test(35, "NIGHTS go by, in which they are together", byTwo(0) + "comes = 1 - met;")
-            .asks("game(1, 1, 0) = 1  game(1, 6, 0) = 1  goer(0, 6) = 0");
+        EDGES.test(35, "NIGHTS go by, in which they are together",
+            "hours 2; dial a 0 0; dial b 0 0; goer p a 0 1; goer q b 0 1; comes = 1 - met;")
+            .asks("game(1, 1, 0) = 1  game(1, 3, 0) = 1  game(1, 6, 0) = 1  goer(0, 6) = 0");
+        EDGES.test(35, "NIGHTS go by, in which DIALS slip", byTwo(2).replace("b 0 0", "b 0 1"))
+            .asks("game(2, 1, 0) = 0  game(2, 2, 0) = 0  game(2, 3, 0) = 1  game(2, 6, 0) = 1  dial(1, 0) = 0");
+        EDGES.test(35, "NIGHTS go by: which it is", byTwo(0) + "comes = night - 4;")
+            .asks("game(2, 5, 0) = 0  game(2, 6, 0) = 1  count(3) = 0");
     }
 }
