@@ -25,6 +25,7 @@ public final class NowEdgesTest {
         slip();
         nights();
         aNight();
+        nightsOfTheMost();
         lawsEachNight();
         darkNights();
         undo();
@@ -408,6 +409,17 @@ public final class NowEdgesTest {
             .asks("""
                 nights(1) = 1  together(0, 1) = 1  dial(0, 0) = 1  nights(2) = 3  together(0, 1) = 1  dial(0, 0) = 0
                 nights(1) = 4  together(0, 1) = 2""");
+    }
+
+    private static void nightsOfTheMost() {
+        EDGES.test(14, "NIGHTS change nothing but OUT and who met: as many DIALS and GOERS as can be",
+            "hours 8; dial a 0 1; dial b 0 2; dial c 0 3; dial d 0 4; goer p d 1 2; goer q c 2 3; goer r b 3 4; goer s a 4 5;"
+            + "goer t d 5 6;").asks("""
+            nights(1) = 1  dial(0, 0) = 1  dial(1, 0) = 2  dial(2, 0) = 3  dial(3, 0) = 4  nights(2) = 3
+            dial(0, 0) = 3  dial(1, 0) = 6  dial(2, 0) = 1  dial(3, 0) = 4
+            dial(0, 1) = 1  dial(1, 1) = 2  dial(2, 1) = 3  dial(3, 1) = 4
+            goer(0, 0) = 3  goer(1, 0) = 2  goer(2, 0) = 1  goer(3, 0) = 0  goer(4, 0) = 3
+            goer(0, 1) = 1  goer(4, 1) = 5  goer(0, 2) = 2  goer(4, 2) = 6  round() = 8""");
     }
 
     private static void lawsEachNight() {

@@ -39,6 +39,7 @@ public final class TextEdgesTest {
         wrong();
         faultyTexts();
         newTexts();
+        smallerTexts();
         textsInARow();
         place();
         EDGES.end(1, 5);
@@ -655,6 +656,26 @@ public final class TextEdgesTest {
             nights(5) = 5  turn(0, 1) = 1  follow(0, 1) = true  slip(1, 0) = true""").reads(Edges.GARDEN).asks("""
             count(3) = 0  count(4) = 0  count(14) = 0  count(16) = 7  together(0, 1) = 0  goer(0, 6) = 0
             dial(0, 0) = 0  dial(1, 0) = 3  dial(1, 1) = 2  goer(0, 0) = 0  undo() = false""");
+    }
+
+    /** Most of all there can be, then little: all that the first text had more of would be seen. */
+    private static void smallerTexts() {
+        String large = "hours 8; dial a 1 1; dial b 4 3; dial c 0 5; dial d 2 7; goer p d 0 8; goer q c 0 8; goer r b 0 8;"
+            + "goer s a 0 8; goer t d 0 8; comes = 1; stays = 8; worth = 9; dims = 100; seed 9999;";
+        EDGES.test(4, "else it is in place of the one ahead: no more DIALS and GOERS than it tells", large).asks("""
+            nights(3) = 3  count(4) = 240""").reads("hours 8; dial z 1 0; goer x z 0 1; goer y z 5 1;").asks("""
+            count(1) = 1  count(2) = 2  count(4) = 0  count(5) = 3  count(6) = 111  count(7) = 0  count(12) = 0
+            count(13) = 0  count(14) = 0  count(15) = 0  count(16) = 3  there(7) = 1  there(4) = 2  there(0) = 0
+            round() = 1  sooner(0) = -2  strangers(0) = 2  by(0, 1, 200, 0) = 0  by(0, 1, 200, 1) = 0
+            alone(0, 8) = 8  earns(0, 200) = 0  peace(60, 0) = 0  favourite(60, 1) = 0  couples(60, NONE) = 0
+            fullest(0) = 4  fullest(1) = 1  metIn(0, 200) = 0  fits(0, 0, 1) = 1  nights(200) = 200  count(4) = 0
+            dial(0, 0) = 1  dial(0, 1) = 0  dial(1, 0) = NONE  goer(2, 0) = NONE""");
+        EDGES.test(4, "else it is in place of the one ahead: by no DIAL that was", large.replace("dims = 100;", ""))
+            .asks("there(0) = 31").reads("hours 8; dial z 1 0; goer x z 0 1; goer y z 5 1;")
+            .asks("by(0, 1, 200, 0) = 0  by(0, 1, 200, 1) = 0  fits(0, 0, 1) = 1  fits(0, 0, 0) = 1");
+        EDGES.test(4, "else it is in place of the one ahead: no DIALS and GOERS", large).reads("hours 8;").asks("""
+            round() = 1  count(5) = 0  count(6) = 255  count(7) = 0  count(12) = 0  count(15) = 0  count(16) = 0
+            there(0) = 0  fullest(1) = 0  peace(1, 0) = 0  couples(1, NONE) = 0  nights(9) = 9  count(4) = 0""");
     }
 
     private static void textsInARow() {
