@@ -43,7 +43,7 @@ final class Call {
             case "false":
                 return 0;
             default:
-                return Long.parseLong(word);
+                return Long.decode(word);
         }
     }
 

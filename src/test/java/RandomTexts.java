@@ -1,4 +1,5 @@
 import java.util.ArrayList;
+import java.util.Arrays;
 import java.util.List;
 import java.util.Random;
 
@@ -25,17 +26,37 @@ final class RandomTexts {
 
     String text() {
         List<String> words = new ArrayList<>();
-        List<String> tells = tells();
-        for (String tell : tells) {
-            for (String word : tell.split(" ")) {
-                words.add(word);
-            }
+        for (String tell : tells()) {
+            words.addAll(Arrays.asList(tell.split(" ")));
+        }
+        boolean isLong = chance(12);
+        if (isLong) {
+            fill(words, 396 + upTo(8));
         }
         if (chance(25)) {
             spoil(words);
         }
+        return joined(words, isLong || chance(30));
+    }
+
+    /** Laws, then shorter tells, until there are about so many tokens: close to the 400 that a text has room for. */
+    private void fill(List<String> words, int tokens) {
+        while (tokens - words.size() > 60) {
+            String law = LAWS[random.nextInt(LAWS.length)];
+            words.addAll(Arrays.asList((law + " = " + law(law) + " ;").split(" ")));
+        }
+        while (tokens - words.size() > 7) {
+            words.addAll(Arrays.asList(("seed " + upTo(9999) + " ;").split(" ")));
+        }
+        words.addAll(Arrays.asList("worth = 1".split(" ")));
+        while (tokens - words.size() > 2) {
+            words.addAll(Arrays.asList("+ met".split(" ")));
+        }
+        words.add(";");
+    }
+
+    private String joined(List<String> words, boolean dense) {
         StringBuilder text = new StringBuilder();
-        boolean dense = chance(30);
         for (String word : words) {
             boolean glued = text.length() == 0 || dense && !isWordy(text.charAt(text.length() - 1), word.charAt(0));
             text.append(glued ? "" : chance(90) ? " " : chance(50) ? " \t" : "\r\n").append(word);
