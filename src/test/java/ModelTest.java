@@ -14,6 +14,9 @@ public final class ModelTest {
         "favourite p b", "longest g g m", "couples p i", "fullest b", "game d k b", "metIn g m", "outIn d m",
         "year g g m y", "tell n h f", "tell n h f", "tell n h f", "forget", "fits q g b", "look q g h", "hold z",
         "restore z", "count c", "count c"};
+    private static final int[] ODD = {Integer.MIN_VALUE, Integer.MAX_VALUE, -1, -2};
+    // By which a number that is too large could be taken for one that is right, if bits of it were lost.
+    private static final int[] FAR = {32, -32, 64, 256, 65536, 1 << 31};
     private final Due due = new Due("ModelTest");
     private final Random random;
     private final RandomTexts texts;
@@ -101,10 +104,16 @@ public final class ModelTest {
         if (sort == 'f') {
             return random.nextBoolean();
         }
-        int odd = random.nextInt(400);
-        if (odd < 4) {
-            return new int[] {Integer.MIN_VALUE, Integer.MAX_VALUE, -1, -2}[odd];
+        int value = ordinary(sort);
+        int odd = random.nextInt(60 * ODD.length);
+        if (odd < ODD.length) {
+            return ODD[odd];
         }
+        int far = random.nextInt(60 * FAR.length);
+        return far < FAR.length ? value + FAR[far] : value;
+    }
+
+    private int ordinary(char sort) {
         boolean edge = random.nextInt(15) == 0;
         switch (sort) {
             case 't':

@@ -171,6 +171,9 @@ public final class ToldEdgesTest {
     private static void hold() {
         EDGES.full(43, "false: no such one")
             .asks("hold(-1) = false  hold(3) = false  hold(MIN) = false  hold(MAX) = false  count(11) = 2");
+        EDGES.full(43, "false: no such one, 32 from one that is").asks("""
+            hold(32) = false  hold(33) = false  hold(34) = false  hold(-32) = false  hold(-31) = false  hold(256) = false
+            hold(65537) = false  count(11) = 2""");
         EDGES.test(43, "in a SLOT (0 .. 2)", Edges.PAIR).asks("""
             hold(-1) = false  hold(3) = false  count(11) = 0  hold(0) = true  count(11) = 1  hold(2) = true  count(11) = 2
             hold(1) = true  count(11) = 3  hold(3) = false  hold(1) = true  count(11) = 3""");
@@ -194,6 +197,10 @@ public final class ToldEdgesTest {
         EDGES.full(44, "false, and nothing happens: no such one, nothing is held").asks("""
             restore(-1) = false  restore(3) = false  restore(1) = false  restore(MIN) = false  restore(MAX) = false
             count(9) = 4""");
+        // Slots 0 and 2 hold something: these are no other names of them, though bits moved by 32 are not moved at all.
+        EDGES.full(44, "false, and nothing happens: no such one, 32 from one that holds something").asks("""
+            restore(32) = false  restore(34) = false  restore(64) = false  restore(-32) = false  restore(-30) = false
+            restore(256) = false  restore(65538) = false""");
         EDGES.full(44, "it goes on from what a SLOT holds").asks("""
             restore(0) = true  count(3) = 0  count(4) = 0  dial(1, 0) = 3  dial(1, 1) = 2  goer(2, 0) = 1  count(16) = 7
             together(0, 1) = 0  goer(0, 6) = 0  nights(1) = 1
